@@ -5,6 +5,7 @@ public final class SeenTest {
         faiths();
         likely();
         centuries();
+        longCenturies();
         centuriesOfSome();
         centuriesRefused();
         Due.end();
@@ -107,6 +108,21 @@ public final class SeenTest {
         x.leave(1);
         Due.due("seed of the largest", x.centuries(1, Integer.MAX_VALUE, 2),
             (1103515245L * Integer.MAX_VALUE + 12345L) % (1L << 31));
+    }
+
+    private static void longCenturies() {
+        VowDoves x = Due.towerOf("k5,b6;521");
+        x.let(0, 0);
+        Due.due("a draw of 5 is not less than 5", x.centuries(1, 36, 0), 1);
+        x.let(1, 0);
+        x.let(2, 1);
+        // They keep them in 5, 8 and 9 of ten years.
+        int[][] want = {{Integer.MAX_VALUE, 47, 14, 17220203}, {1, 47, 23, 752577037}, {1999999999, 45, 8, 2059441771}};
+        for (int[] run : want) {
+            for (int what = 0; what <= 2; what++) {
+                Due.due("centuries(60, " + run[0] + ", " + what + ")", x.centuries(60, run[0], what), run[what + 1]);
+            }
+        }
     }
 
     private static void centuriesOfSome() {

@@ -78,6 +78,7 @@ public final class WouldBeTest {
         matchIs(Due.towerOf("k5,k5;55555"), "nobody is ahead of all", 20, -1, 0, 0, 1, 1);
         matchIs(Due.towerOf("k0,k0;99"), "who never keeps it is left out", 0, -1, -1, -1, -1, -1);
         matchIs(Due.towerOf("k0,l0;909"), "so he is among others", 5, -1, 0, -1, -1, -1);
+        matchIs(Due.towerOf("k0,l1;545"), "one year of ten is better than none", 3, -1, 1, 1, -1, -1);
         matchIs(Due.towerOf("w0,b0;95"), "a widow keeps some", 6, 0, 0, -1, -1, -1);
     }
 

@@ -124,5 +124,10 @@ public final class YearsTest {
         Due.due("what was broken stays", x.count(5), 2);
         Due.due("no owl is left", x.forgive(), 0);
         Due.due("it can be let again", x.let(1, 1), 1);
+        x.let(4, 1);
+        x.year(0);
+        Due.due("the first and the last hole", x.forgive(), 3);
+        Due.due("hole 0 is vacant", x.hole(0, 2), 0);
+        Due.due("hole 4 is vacant", x.hole(4, 2), 0);
     }
 }
