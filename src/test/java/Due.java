@@ -1,3 +1,5 @@
+import java.util.function.LongSupplier;
+
 /** What the project's tests share: answers that are due, and towers written letter by letter. */
 final class Due {
     private static int wrong = 0;
@@ -12,6 +14,13 @@ final class Due {
             wrong++;
             System.out.println(call + " answered " + got + ", due is " + want);
         }
+    }
+
+    /** The call is refused so, and the digest is what it was. */
+    static void refused(VowDoves doves, String call, LongSupplier asked, int want) {
+        long before = doves.digest();
+        due(call, asked.getAsLong(), want);
+        due("digest behind the refused " + call, doves.digest(), before);
     }
 
     static void write(VowDoves doves, String text) {
