@@ -193,8 +193,15 @@ public final class YearsEdgesTest {
         VowDoves x = new VowDoves();
         Due.refused(x, "12: year(0)", () -> x.year(0), VowDoves.STATE);
         // There are no holes whose bits these could be, and OUTSIDE is told first.
-        Due.refused(x, "12: year(1)", () -> x.year(1), VowDoves.OUTSIDE);
-        Due.refused(x, "12: year(-1)", () -> x.year(-1), VowDoves.OUTSIDE);
+        for (int kept : new int[] {1, 2, 3, 4, 8, 16, 31, 32, 1 << 30, MOST, -1, LEAST}) {
+            Due.refused(x, "12: no tower, year(" + kept + ")", () -> x.year(kept), VowDoves.OUTSIDE);
+        }
+        // A tower that is written but not read has no holes yet.
+        Due.write(x, "k5,w5;55");
+        Due.refused(x, "12: not read, year(0)", () -> x.year(0), VowDoves.STATE);
+        Due.refused(x, "12: not read, year(3)", () -> x.year(3), VowDoves.OUTSIDE);
+        x.tower();
+        Due.due("12: read, year(3)", x.year(3), 0);
     }
 
     private static void yearWithNothingLet() {
