@@ -542,7 +542,10 @@ public final class VowDoves {
             System.arraycopy(other.broken, 0, broken, 0, MOST);
             System.arraycopy(other.seenKeepers, 0, seenKeepers, 0, MOST_SEEN);
             System.arraycopy(other.seenHards, 0, seenHards, 0, MOST_SEEN);
-            System.arraycopy(other.seenKept, 0, seenKept, 0, MOST_SEEN);
+            // The library's copy is kept to arrays of numbers.
+            for (int i = 0; i < MOST_SEEN; i++) {
+                seenKept[i] = other.seenKept[i];
+            }
             seen = other.seen;
             years = other.years;
         }

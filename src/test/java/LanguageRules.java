@@ -189,7 +189,7 @@ final class LanguageRules extends TreePathScanner<Void, Void> {
             dimensions++;
             type = row.getComponentType();
         }
-        if (dimensions > 2 || dimensions == 2 && (!type.getKind().isPrimitive() || type.getKind() == TypeKind.BOOLEAN)) {
+        if (dimensions > 2 || dimensions == 2 && !isNumber(type)) {
             fault("3", variable, "an array of " + dimensions + " dimensions");
         }
         return super.visitVariable(variable, none);
@@ -346,6 +346,23 @@ final class LanguageRules extends TreePathScanner<Void, Void> {
     public Void visitNewClass(NewClassTree tree, Void none) {
         readElement(tree);
         return super.visitNewClass(tree, none);
+    }
+
+    @Override
+    public Void visitMethodInvocation(MethodInvocationTree tree, Void none) {
+        String name = tree.getMethodSelect().toString();
+        if (name.startsWith("Arrays.") || name.equals("System.arraycopy")) {
+            for (ExpressionTree argument : tree.getArguments()) {
+                if (typeOf(argument) instanceof ArrayType row && !isNumber(row.getComponentType())) {
+                    fault("4", tree, name + " over what is no array of numbers");
+                }
+            }
+        }
+        return super.visitMethodInvocation(tree, none);
+    }
+
+    private static boolean isNumber(TypeMirror type) {
+        return type.getKind().isPrimitive() && type.getKind() != TypeKind.BOOLEAN;
     }
 
     private void readElement(Tree tree) {

@@ -92,6 +92,7 @@ public final class LanguageTest {
         finds("4", "private void f() { System.out.println(); }");
         finds("4", "private long f() { return System.nanoTime(); }");
         finds("4", "private int f() { return hashCode(); }");
+        finds("4", "private void f(boolean[] a, boolean[] b) { System.arraycopy(a, 0, b, 0, 1); }");
         finds("4", "private String s = \"\u00e9\";");
     }
 
